@@ -191,6 +191,15 @@ public final class ModelTest {
         due(call("seen", e, t, so), m.seen(e, t, so), x.seen(e, t, so));
     }
 
+    private void fillWithEvents(int s, int form) {
+        int n = random.nextInt(14);
+        due(call("sheet", s, form, n), m.sheet(s, form, n), x.sheet(s, form, n));
+        for (int i = 0; i < n; i++) {
+            int v = i % 3 == 0 ? about(2) : about(11);
+            due(call("put", s, form, i, v), m.put(s, form, i, v), x.put(s, form, i, v));
+        }
+    }
+
     private void sheets() {
         int s = about(3);
         int t = about(3);
@@ -220,7 +229,12 @@ public final class ModelTest {
                 int e = about(11);
                 due(call("write", e, s), m.write(e, s), x.write(e, s));
             }
-            default -> due(call("read", s), m.read(s), x.read(s));
+            default -> {
+                if (random.nextInt(3) == 0) {
+                    fillWithEvents(s, form);
+                }
+                due(call("read", s), m.read(s), x.read(s));
+            }
         }
         due("count(8)", m.count(8), x.count(8));
         due("count(4)", m.count(4), x.count(4));

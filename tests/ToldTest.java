@@ -174,12 +174,13 @@ public final class ToldTest {
 
     private static void read() {
         for (int form = 0; form < 3; form++) {
-            BackHooks x = Checks.told("hh", "m30");
-            Checks.fill(x, 2, form, Checks.MAID, 0, 0, Checks.LEFT, 1, 1, Checks.FRONT, 2);
+            BackHooks x = Checks.told("hhg", "m39");
+            Checks.fill(x, 2, form, Checks.MAID, 0, 0, Checks.LEFT, 1, 2, Checks.FRONT, 2);
             Checks.due("10: read of two whole ones", 2, x.read(2));
             Checks.due("10: events", 2, x.count(4));
             Checks.due("10: evening 0", 0, x.at(0, 0));
             Checks.due("10: evening 1", 3, x.at(1, 0));
+            Checks.due("10: the hook that is left in it", 0, x.said(1, 2));
             Checks.due("10: evening 2", 2, x.at(2, 0));
         }
         BackHooks x = new BackHooks();

@@ -14,6 +14,8 @@ public final class BackHooks {
     private static final int ITEMS = 60;
     private static final int HOTTEST = 9;
     private static final int SIXTEENTHS = 16;
+    private static final int LEAST_INT = 1 << 31;
+    private static final long LEAST_LONG = 1L << 63;
 
     /** Eight things of three bytes with a ; between them: a ninth has no room. */
     private static final int THING_BYTES = 4 * THINGS - 1;
@@ -308,7 +310,7 @@ public final class BackHooks {
     public long chance(int c, int thing, int what) {
         refresh();
         if (c < 0 || c > SIXTEENTHS || !isThing(thing) || !isBelow(what, 2)) {
-            return Long.MIN_VALUE - BAD;
+            return LEAST_LONG - BAD;
         }
         refreshEnds();
         return chanceOf(c, thing, what);
@@ -362,12 +364,12 @@ public final class BackHooks {
 
     public int get(int s, int form, int i) {
         if (!isSheet(s) || !isBelow(form, FORMS)) {
-            return Integer.MIN_VALUE;
+            return LEAST_INT;
         }
         int finding = sheets[s].findingAt(form, i);
         if (finding != 0) {
             latestFinding = finding;
-            return Integer.MIN_VALUE;
+            return LEAST_INT;
         }
         return sheets[s].items[i];
     }
