@@ -13,7 +13,7 @@ public final class GridTest {
     /** For the calls of three numbers and more: the ends of evenings, things, sheets, forms, kinds. */
     private static final int[] FEW = {LEAST, -1, 0, 1, 2, 3, 4, 7, 8, 11, 12, MOST};
     /** The numbers of copy(): sheets and places in them. */
-    private static final int[] PLACES = {LEAST, -1, 0, 1, 3, 4, MOST};
+    private static final int[] PLACES = {-1, 0, 1, 3, 4, MOST};
     /** The calls that change nothing, and how many numbers each takes. */
     private static final String[] ASKING = {"fault/1", "hook/1", "thing/2", "heat/3", "said/2", "at/2", "settled/1", "sum/1",
         "peace/0", "longest/0", "highest/1", "sore/0", "swap/1", "fit/0", "leave/2", "spare/1", "never/0", "was/2", "ask/1",
@@ -33,9 +33,9 @@ public final class GridTest {
             for (String tell : TELLING) {
                 run(state, calls(tell, tell.endsWith("3") ? FEW : ENDS));
             }
-            run(state, calls("chance/3", new int[] {LEAST, -1, 0, 1, 2, 5, 7, 8, 15, 16, 17, MOST}));
+            run(state, calls("chance/3", new int[] {LEAST, -1, 0, 1, 2, 7, 8, 16, 17, MOST}));
             run(state, calls("seasons/3", new int[] {LEAST, -1, 0, 1, 2, 7, 8, 9, MOST}));
-            run(state, calls("put/4", new int[] {LEAST, -1, 0, 1, 2, 3, 4, 59, 60, 256, MOST}));
+            run(state, calls("put/4", new int[] {LEAST, -1, 0, 2, 3, 4, 59, 60, MOST}));
             run(state, calls("copy/5", PLACES));
         }
         Checks.end();
