@@ -13,6 +13,10 @@ public final class CountBoundsTest {
         countOfWhat();
         countAtItsMost();
         latestFinding();
+        eveningsAreNoughtToEleven();
+        refusalsOfTextsEventsAndSeenInOrder();
+        refusalsOfSheetsInOrder();
+        refusalsAheadOfNone();
         refusalsThatAreNoFindings();
         askingChangesNothing();
         digestOfANewObject();
@@ -69,6 +73,64 @@ public final class CountBoundsTest {
         // what is well leaves it
         c.due(1, "put", 0, 0, 0, 3).due(0, "read", 0).due(1, "copy", 0, 0, 0, 0, 1).due(1, "lose", 0).due(5, "count", 8);
         c.due(2, "wipe", 0).due(5, "count", 8);
+    }
+
+    private static void eveningsAreNoughtToEleven() {
+        Case c = Case.of(37, "EVENINGS are 0 to 11.").hooks("hs").things("m31").sheet(0, 0, 5, 5);
+        c.outside(1, 0, 11, BAD, "event", MAID, 0, 0).outside(0, 0, 11, BAD, "seen", 0, 0, 0);
+        c.outside(0, 0, 11, BAD, "heat", 0, 0, 0).outside(0, 0, 11, BAD, "said", 0, 0).outside(0, 0, 11, BAD, "at", 0, 0);
+        c.outside(0, 0, 11, BAD, "leave", 0, 0).outside(0, 0, 11, BAD, "write", 0, 0);
+        // his mother is settled in evening 0 by its three minutes
+        for (int e = 0; e < 12; e += 11) {
+            c.due(0, "heat", e, 0, 0).due(e == 0 ? 3 : 0, "heat", e, 0, 1).due(e == 0 ? 0 : 8, "said", e, 1);
+            c.each(Case.row(3, e == 0 ? 0 : 3, 0, e == 0 ? 1 : 0), "at", e).each(Case.row(0, 1, 34), "leave", e);
+            c.due(2, "write", e, 0).items(0, 0, e == 0 ? 0 : 8, e == 0 ? 0 : 8);
+        }
+        c.due(1, "seen", 0, 0, 1).due(2, "seen", 11, 0, 1).due(1, "event", MAID, 11, 0).due(2, "event", MAID, 0, 0);
+        c.due(0, "at", 11, 0).due(0, "at", 0, 0).due(3, "at", 1, 0).due(3, "at", 10, 0).digest();
+    }
+
+    private static final String ORDER = "Refusals, the first that fits, in the order told at each act: BAD -2 (a number not as "
+            + "told, no such thing), NULL, NOT -3 (as told), FULL -4, other FINDINGS.";
+
+    private static void refusalsOfTextsEventsAndSeenInOrder() {
+        // nothing is told: BAD ahead of NOT
+        Case none = Case.of(37, ORDER).still(-2, "undo", 2).still(-2, "undo", -1).still(-3, "undo", 0).still(-3, "back");
+        none.digest();
+        // all is full: BAD ahead of FULL
+        Case full = Case.of(37, ORDER).hooks("hhhhhhhhhhhh").things(EIGHT);
+        for (int i = 0; i < 8; i++) {
+            full.events(LEFT, i, i).due(i + 1, "seen", i, i, 1);
+        }
+        full.still(-2, "type", 0, 256).still(-2, "type", 1, -1).still(-2, "type", 2, 'h').still(-4, "type", 0, 255);
+        full.still(-2, "event", 3, 0, 0).still(-2, "event", 0, 12, 0).still(-2, "event", 0, 0, 12).still(-4, "event", 2, 11, 11);
+        full.still(-2, "seen", 12, 0, 0).still(-2, "seen", 0, 8, 0).still(-2, "seen", 0, 0, 2).still(-4, "seen", 11, 7, 1);
+        full.digest();
+    }
+
+    private static void refusalsOfSheetsInOrder() {
+        // sheet 0 of one byte, sheet 1 of one short, sheet 2 lost that had been of ints, sheet 3 lost ever
+        Case c = Case.of(37, ORDER).hooks("hs").things("m31").sheet(0, 0, 5).sheet(1, 1, 6).sheet(2, 2, 7).due(1, "lose", 2);
+        // BAD ahead of NULL, of CAST, of STORE, of INDEX, of SIZE
+        c.still(-2, "sheet", 4, 0, -1).still(-2, "sheet", 0, 3, -1).still(-2, "put", 3, 3, 0, 0).still(-2, "put", 0, 3, 9, 0);
+        c.still(Integer.MIN_VALUE, "get", 3, -1, 0).still(Integer.MIN_VALUE, "get", 0, 3, 9).still(-2, "write", 12, 3);
+        c.still(-2, "copy", 4, 0, 3, 0, 1).still(-2, "copy", 3, 0, 4, 0, 1).still(-2, "copy", 0, 0, -1, 0, -1);
+        c.due(0, "count", 8);
+        // NULL ahead of CAST, of STORE, of INDEX
+        c.found(NULL, "put", 2, 0, 0, 0).found(NULL, "put", 2, 2, 9, 0).foundByGet(NULL, 2, 0, 9).foundByGet(NULL, 3, 0, -1);
+        c.found(NULL, "copy", 2, 0, 0, 0, 1).found(NULL, "copy", 0, 0, 2, 0, 1).found(NULL, "copy", 3, -1, 2, 9, -1);
+        // CAST and STORE ahead of INDEX
+        c.found(CAST, "put", 0, 1, 1, 0).found(CAST, "put", 1, 2, -1, 0).foundByGet(CAST, 0, 2, 1);
+        c.found(STORE, "copy", 0, 0, 1, 0, 2).found(STORE, "copy", 1, -1, 0, 0, 0);
+        // alone
+        c.found(INDEX, "put", 0, 0, 1, 0).foundByGet(INDEX, 1, 1, 1).found(INDEX, "copy", 0, 0, 0, 0, 2);
+        c.found(SIZE, "sheet", 3, 0, -1).digest();
+    }
+
+    private static void refusalsAheadOfNone() {
+        // there are neither hooks nor things, so what is well told answers NONE
+        Case c = Case.of(37, ORDER).still(-2, "swap", 4).still(-1, "swap", 3).still(-2, "leave", 12, 0).still(-2, "leave", 0, 3);
+        c.still(-1, "leave", 11, 2).still(-2, "spare", 2).still(-1, "spare", 1).still(-2, "spare", -2).digest();
     }
 
     private static void refusalsThatAreNoFindings() {
