@@ -699,6 +699,19 @@ final class Model {
         return h;
     }
 
+    /** Calls by which a new object comes to hold what stands here, but for sheets and count(8). */
+    List<Call> retold() {
+        List<Call> calls = new ArrayList<>();
+        for (int text = 0; text < 2; text++) {
+            for (int i = 0; i < texts[text].length(); i++) {
+                calls.add(new Call("type", text, texts[text].charAt(i)));
+            }
+        }
+        events.forEach(v -> calls.add(new Call("event", v)));
+        sights.forEach(v -> calls.add(new Call("seen", v)));
+        return calls;
+    }
+
     private static void add(List<Long> row, long... values) {
         for (long v : values) {
             row.add(v);
